@@ -641,7 +641,6 @@ public final class Postlint {
                 amounts[i] = 0;
             }
             accountBits = 0;
-            postings = 0;
             isStruckOut = true;
         }
 

@@ -119,6 +119,13 @@ public final class PromiseTest {
         p.type('a');
         Check.equal("a full draft that could go on", p.fault(), 60);
         Check.equal("fault changes nothing", p.fault(), 60);
+        p.clear();
+        Check.type(p, "((((a+1");
+        Check.equal("the fault with groups open", p.fault(), 7);
+        Check.equal("asked again", p.fault(), 7);
+        p.clear();
+        Check.type(p, "(a+1) ");
+        Check.equal("the fault of the next draft", p.fault(), Postlint.NONE);
     }
 
     /** Each sign behind each beginning: those of the list go on, all others are the fault. */
@@ -179,6 +186,8 @@ public final class PromiseTest {
         Check.yes("write another form", Check.write(p, 0, "(a+1 b-1)x3"));
         Check.equal("another form", Check.text(p, 0, Postlint.WRITTEN), "(a+1 b-1)x3");
         Check.equal("what it gets", p.gets(0, 1), -3);
+        Check.yes("another account alone", Check.write(p, 1, "d+1"));
+        Check.yes("another number alone", Check.write(p, 1, "d+2"));
         Check.yes("+0 is not -0", Check.write(p, 1, "c+0") && Check.write(p, 1, "c-0"));
         p.strike(1);
         Check.yes("write one that is struck out", Check.write(p, 1, "c-0"));
